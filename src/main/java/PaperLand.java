@@ -622,7 +622,7 @@ public final class PaperLand {
     }
 
     private static int usable(int side, int edge) {
-        return Math.max(0, side - 2 * edge);
+        return side > 2 * edge ? side - 2 * edge : 0;
     }
 
     private static int capped(long number) {
@@ -1336,6 +1336,7 @@ public final class PaperLand {
             if (land.seriesCount >= MOST_SERIES) {
                 return reader.fail(OVER_LIMIT);
             }
+            Series of = land.series[land.seriesCount];
             reader.advance();
             if (!reader.seesName()) {
                 return false;
@@ -1356,7 +1357,7 @@ public final class PaperLand {
             }
             land.addSeries(reader.text, start, length, wide, reader.value);
             reader.advance();
-            return readSizes(land.series[land.seriesCount - 1]);
+            return readSizes(of);
         }
 
         private boolean readSizes(Series of) {
@@ -1521,7 +1522,7 @@ public final class PaperLand {
             if (!reader.seesName()) {
                 return false;
             }
-            firsts[at] = land.seriesNamed(reader.text, reader.start, reader.end - reader.start);
+            setAt(firsts, at, land.seriesNamed(reader.text, reader.start, reader.end - reader.start));
             reader.advance();
             return readNumber(reader, seconds, at, 0, SIZES - 1) && readNumber(reader, thirds, at, least, most);
         }
@@ -1531,7 +1532,7 @@ public final class PaperLand {
                 || !readOrders(reader, land, depth + 1) || !reader.takeSign(')')) {
                 return false;
             }
-            ends[at] = total;
+            setAt(ends, at, total);
             return true;
         }
 
@@ -1539,7 +1540,7 @@ public final class PaperLand {
             if (!reader.seesNumber(least, most)) {
                 return false;
             }
-            row[at] = reader.value;
+            setAt(row, at, reader.value);
             reader.advance();
             return true;
         }

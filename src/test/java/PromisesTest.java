@@ -102,6 +102,7 @@ public final class PromisesTest {
         land.order(300, 1, 1);
         land.save(0);
         land.writeStacks();
+        Check.play(land, "buy none 0 1;");
         check.is(1, () -> Check.load(land, "land 1 2;series q 10 10 size 0 1"));
         check.is("royal0:9 royal1:1 long0:4", () -> Check.output(land));
         check.is("1 1 1 1 2 0 0", () -> Check.counts(land));
@@ -126,6 +127,7 @@ public final class PromisesTest {
         check.is("-1 1 3", () -> Check.loadError(" \n "));
         check.is("-1 1 0", () -> Check.loadError("lands 1 1"));
         check.is("-1 1 0", () -> Check.loadError("lan 1 1"));
+        check.is("-1 1 0", () -> Check.loadError("sand 1 1"));
         check.is("-1 1 0", () -> Check.loadError("3 land"));
         check.is("-1 1 4", () -> Check.loadError("land\t3 3"));
         check.is("-1 1 5", () -> Check.loadError("land -1 3"));
@@ -217,10 +219,13 @@ public final class PromisesTest {
         check.is("0 0 -1", () -> Check.playError(" \n"));
         check.is("1 0 -1", () -> Check.playError("edge50;"));
         check.is("0 0 -1", () -> Check.playError("buy buy 9 99;"));
+        check.is("2 0 -1", () -> Check.playError("edge 2;again 20();edge 1;"));
         check.is("-1 1 0", () -> Check.playError(";"));
         check.is("-1 1 0", () -> Check.playError(")"));
         check.is("-1 1 0", () -> Check.playError("land 3 50;"));
         check.is("-1 1 0", () -> Check.playError("Edge 3;"));
+        check.is("-1 1 0", () -> Check.playError("guy a 0 1;"));
+        check.is("-1 1 0", () -> Check.playError("buz a 0 1;"));
         check.is("-1 1 7", () -> Check.playError("edge 3 edge 3;"));
         check.is("-1 1 6", () -> Check.playError("edge 3"));
         check.is("-1 1 8", () -> Check.playError("edge 3 \n"));
@@ -237,10 +242,14 @@ public final class PromisesTest {
         check.is("-1 2 8", () -> Check.playError("cut a 9 10000;"));
         check.is("-1 2 8", () -> Check.playError("cut a 9 0;"));
         check.is("0 0 -1", () -> Check.playError("cut a 9 9999;"));
+        check.is("-1 2 6", () -> Check.playError("order 0 1 1;"));
+        check.is("-1 2 8", () -> Check.playError("order 1 2001 1;"));
+        check.is("-1 2 10", () -> Check.playError("order 1 1 1000;"));
         check.is("-1 2 6", () -> Check.playError("order 2001 1 1;"));
         check.is("-1 2 8", () -> Check.playError("order 1 0 1;"));
         check.is("-1 2 10", () -> Check.playError("order 1 1 0;"));
         check.is("0 0 -1", () -> Check.playError("order 2000 2000 999;"));
+        check.is("-1 2 6", () -> Check.playError("again 0("));
         check.is("-1 2 6", () -> Check.playError("again 21("));
         check.is("-1 1 8", () -> Check.playError("again 2 edge 1;"));
         check.is("-1 1 8", () -> Check.playError("again 2(;);"));
@@ -369,6 +378,10 @@ public final class PromisesTest {
             PaperLand x = Check.landOf("land 0 1;series a 3 2 size 0 9");
             return x.size(0, 1, 0) + " " + x.size(0, 1, 1) + " " + x.size(0, 2, 0) + " " + x.size(0, 2, 1) + " "
                 + x.size(0, 3, 1);
+        });
+        check.is("8 4 4 4", () -> {
+            PaperLand x = Check.landOf("land 0 1;series a 8 8");
+            return x.size(0, 1, 0) + " " + x.size(0, 1, 1) + " " + x.size(0, 2, 0) + " " + x.size(0, 2, 1);
         });
 
         anew("promise 11");
@@ -687,6 +700,11 @@ public final class PromisesTest {
             PaperLand x = Check.landOf("land 0 1;series a 20 20 size 0 3;series b 20 20 size 0 1 size 1 7;series c 20 9");
             return x.whyNot(10, 20, 10, 0) + " " + x.whyNot(20, 20, 4, 0) + " " + x.whyNot(20, 10, 10, 1);
         });
+        check.is("1 1 1 1 2", () -> {
+            PaperLand x = Check.landOf("land 3 1;series a 100 141");
+            return x.whyNot(10, 139, 1, 0) + " " + x.whyNot(10, 139, 1, 1) + " " + x.whyNot(139, 10, 1, 1) + " "
+                + x.whyNot(98, 100, 1, 1) + " " + x.whyNot(96, 137, 1, 1);
+        });
 
         anew("promise 28");
         check.is("2 100 5500 0", () -> land.ifOrder(40, 60, 5, 0) + " " + land.ifOrder(40, 60, 5, 1) + " "
@@ -999,6 +1017,22 @@ public final class PromisesTest {
         land.cut(0, 0, 1);
         check.is(2, () -> land.restore(0));
         check.is("royal0:9 royal1:1 long0:4", () -> Check.stacks(land));
+        // Another print in the place of the saved one, and more of the same.
+        land = new PaperLand();
+        land.order(40, 60, 5);
+        land.save(0);
+        land.undo();
+        land.order(30, 20, 1);
+        land.save(1);
+        land.restore(0);
+        check.is("40 60 5", () -> land.print(0, 0) + " " + land.print(0, 1) + " " + land.print(0, 2));
+        land.order(40, 60, 2);
+        check.is(7, () -> land.ordered(40, 60));
+        land.undo();
+        check.is(5, () -> land.ordered(40, 60));
+        land.restore(1);
+        check.is("30 20 1", () -> land.print(0, 0) + " " + land.print(0, 1) + " " + land.print(0, 2));
+        check.is(0, () -> land.ordered(40, 60));
     }
 
     private String sheetByPages(int folds, boolean isBack) {
