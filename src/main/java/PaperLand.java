@@ -388,11 +388,12 @@ public final class PaperLand {
 
     public int whyNot(int w, int h, int number, int depth) throws IllegalArgumentException {
         requireOrder(w, h, number);
+        require(depth == 0 || depth == 1);
         plan.make(land, w, h, number);
         if (depth == 0) {
             return plan.reason;
         }
-        if (depth != 1 || plan.reason == 0) {
+        if (plan.reason == 0) {
             return NONE;
         }
         return plan.reason == 1 ? land.greatestEdge(w, h) : plan.greatestSupply;

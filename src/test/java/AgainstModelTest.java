@@ -393,7 +393,7 @@ public final class AgainstModelTest {
                 call("nearest", w, h, number);
                 break;
             case 2:
-                call("whyNot", w, h, number, range(0, 2));
+                call("whyNot", w, h, number, range(0, 1));
                 call("whyNot", w, h, number, 1);
                 break;
             case 3:

@@ -660,13 +660,13 @@ final class ModelLand {
     }
 
     int whyNot(int w, int h, int number, int depth) {
-        require(isOrder(w, h, number));
+        require(isOrder(w, h, number) && depth >= 0 && depth <= 1);
         int reason = reason(w, h, number);
         if (depth == 0) {
             return reason;
         }
         int cause = NONE;
-        if (depth == 1 && reason == 1) {
+        if (reason == 1) {
             State other = state;
             for (int edge = 0; edge <= 50; edge++) {
                 state = other.copy();
@@ -677,7 +677,7 @@ final class ModelLand {
             }
             state = other;
         }
-        if (depth == 1 && reason == 2) {
+        if (reason == 2) {
             for (int[] size : thoseThatFit(w, h)) {
                 cause = Math.max(cause, supplyOf(size));
             }

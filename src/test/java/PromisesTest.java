@@ -692,8 +692,12 @@ public final class PromisesTest {
         check.is("1 0", () -> land.whyNot(100, 100, 999, 0) + " " + land.whyNot(100, 100, 999, 1));
         check.is("1 2", () -> land.whyNot(137, 96, 1, 0) + " " + land.whyNot(137, 96, 1, 1));
         check.is("1 2", () -> land.whyNot(95, 135, 1, 0) + " " + land.whyNot(95, 135, 1, 1));
-        check.is("-1 -1 -1", () -> land.whyNot(40, 60, 44, 2) + " " + land.whyNot(300, 10, 1, 2) + " "
-            + land.whyNot(40, 60, 44, -1));
+        // A depth of neither 0 nor 1 is out of its range, whether the order would be refused or not.
+        for (int depth : new int[] {2, -1, 3, Integer.MAX_VALUE, Integer.MIN_VALUE}) {
+            check.is(ARGUMENT, () -> land.whyNot(40, 60, 43, depth));
+            check.is(ARGUMENT, () -> land.whyNot(40, 60, 44, depth));
+            check.is(ARGUMENT, () -> land.whyNot(300, 10, 1, depth));
+        }
         land.setEdge(50);
         check.is("1 49", () -> land.whyNot(1, 43, 1, 0) + " " + land.whyNot(1, 43, 1, 1));
         check.is("2 2 9", () -> {
