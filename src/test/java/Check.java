@@ -15,18 +15,38 @@ final class Check {
     /** The answer of a call, or throws. and the name of what it throws; a char is due as its number. */
     void is(Object due, Call call) {
         String wanted = String.valueOf(due instanceof Character sign ? (Object) (int) sign : due);
-        String got;
-        try {
-            got = String.valueOf(call.answer());
-        } catch (RuntimeException e) {
-            got = "throws." + e.getClass().getSimpleName();
-        }
+        String got = answer(call);
         checked++;
         if (!got.equals(wanted)) {
-            wrong++;
-            StackTraceElement at = new Throwable().getStackTrace()[1];
-            System.out.println(part + ", line " + at.getLineNumber() + ": answered " + got + ", due is " + wanted);
+            fail("answered " + got + ", due is " + wanted);
         }
+    }
+
+    static String answer(Call call) {
+        try {
+            return String.valueOf(call.answer());
+        } catch (RuntimeException e) {
+            return "throws." + e.getClass().getSimpleName();
+        }
+    }
+
+    void fail(String why) {
+        wrong++;
+        System.out.println(part + ", line " + lineOfTest() + ": " + why);
+    }
+
+    int checked() {
+        return checked;
+    }
+
+    /** The line of the test itself, not of what the tests share. */
+    private static int lineOfTest() {
+        for (StackTraceElement at : new Throwable().getStackTrace()) {
+            if (!at.getClassName().equals("Check") && !at.getClassName().equals("BySentence")) {
+                return at.getLineNumber();
+            }
+        }
+        return 0;
     }
 
     void end() {
