@@ -542,7 +542,7 @@ public final class PaperLand {
 
     public int writeStacks() {
         written.shorten(0);
-        for (int series = 0; series < land.seriesCount; series++) {
+        for (int series = 0; series < MOST_SERIES && series < land.seriesCount; series++) {
             land.series[series].writeTo(written);
         }
         return written.length;
@@ -666,8 +666,8 @@ public final class PaperLand {
         }
 
         void put(int value) {
-            if (length < bytes.length) {
-                bytes[length] = value;
+            if (hasRoom(1)) {
+                setAt(bytes, length, value);
                 length++;
             }
         }
@@ -737,7 +737,7 @@ public final class PaperLand {
                 return false;
             }
             for (int index = 0; index < letterCount; index++) {
-                if (letters[index] != text.byteAt(start + index)) {
+                if (valueAt(letters, index) != text.byteAt(start + index)) {
                     return false;
                 }
             }
@@ -745,7 +745,7 @@ public final class PaperLand {
         }
 
         int letterAt(int index) {
-            return index >= 0 && index < letterCount ? letters[index] : NONE;
+            return index >= 0 && index < letterCount ? valueAt(letters, index) : NONE;
         }
 
         void setSides(int wide, int high) {
@@ -879,7 +879,7 @@ public final class PaperLand {
 
         int placeOf(int w, int h) {
             for (int place = 0; place < kept; place++) {
-                if (ws[place] == w && hs[place] == h) {
+                if (valueAt(ws, place) == w && valueAt(hs, place) == h) {
                     return place;
                 }
             }
@@ -895,19 +895,19 @@ public final class PaperLand {
                 return NONE;
             }
             if (what == 0) {
-                return ws[place];
+                return valueAt(ws, place);
             }
-            return what == 1 ? hs[place] : numbers[place];
+            return valueAt(what == 1 ? hs : numbers, place);
         }
 
         void note(int w, int h, int number) {
             int place = placeOf(w, h);
-            if (place >= 0) {
-                numbers[place] += number;
+            if (place != NONE) {
+                setAt(numbers, place, valueAt(numbers, place) + number);
             } else if (kept < MOST_PRINTS) {
-                ws[kept] = w;
-                hs[kept] = h;
-                numbers[kept] = number;
+                setAt(ws, kept, w);
+                setAt(hs, kept, h);
+                setAt(numbers, kept, number);
                 kept++;
             }
         }
@@ -932,7 +932,7 @@ public final class PaperLand {
             edge = other.edge;
             ream = other.ream;
             seriesCount = other.seriesCount;
-            for (int index = 0; index < other.seriesCount; index++) {
+            for (int index = 0; index < MOST_SERIES && index < other.seriesCount; index++) {
                 series[index].copyFrom(other.series[index]);
             }
             prints.copyFrom(other.prints);
@@ -948,11 +948,11 @@ public final class PaperLand {
         }
 
         boolean hasSeries(int index) {
-            return index >= 0 && index < seriesCount;
+            return index >= 0 && index < seriesCount && index < MOST_SERIES;
         }
 
         int seriesNamed(Bytes text, int start, int length) {
-            for (int index = 0; index < seriesCount; index++) {
+            for (int index = 0; index < MOST_SERIES && index < seriesCount; index++) {
                 if (series[index].hasName(text, start, length)) {
                     return index;
                 }
@@ -970,7 +970,7 @@ public final class PaperLand {
 
         int sheetsInAll() {
             int sheets = 0;
-            for (int index = 0; index < seriesCount; index++) {
+            for (int index = 0; index < MOST_SERIES && index < seriesCount; index++) {
                 for (int n = 0; n < SIZES; n++) {
                     sheets += series[index].sheetsAt(n);
                 }
@@ -980,7 +980,7 @@ public final class PaperLand {
 
         int stacksInAll() {
             int stacks = 0;
-            for (int index = 0; index < seriesCount; index++) {
+            for (int index = 0; index < MOST_SERIES && index < seriesCount; index++) {
                 for (int n = 0; n < SIZES; n++) {
                     stacks += series[index].sheetsAt(n) > 0 ? 1 : 0;
                 }
@@ -990,7 +990,7 @@ public final class PaperLand {
 
         long areaInAll() {
             long area = 0;
-            for (int index = 0; index < seriesCount; index++) {
+            for (int index = 0; index < MOST_SERIES && index < seriesCount; index++) {
                 for (int n = 0; n < SIZES; n++) {
                     area += (long) series[index].areaAt(n) * series[index].sheetsAt(n);
                 }
@@ -1000,7 +1000,7 @@ public final class PaperLand {
 
         int greatestEdge(int w, int h) {
             int greatest = NONE;
-            for (int index = 0; index < seriesCount; index++) {
+            for (int index = 0; index < MOST_SERIES && index < seriesCount; index++) {
                 for (int n = 0; n < SIZES; n++) {
                     greatest = Math.max(greatest, series[index].greatestEdgeAt(n, w, h));
                 }
@@ -1079,10 +1079,10 @@ public final class PaperLand {
             left = 0;
             sizesThatFit = 0;
             greatestSupply = 0;
-            for (int index = 0; index < land.seriesCount; index++) {
+            for (int index = 0; index < MOST_SERIES && index < land.seriesCount; index++) {
                 weighSeries(index, land.series[index], land.edge);
             }
-            if (series != NONE) {
+            if (land.hasSeries(series)) {
                 reason = 0;
                 cuts.make(land.series[series], n, number);
             } else {
@@ -1162,8 +1162,9 @@ public final class PaperLand {
         }
 
         void keep(Land land) {
-            lands[next].copyFrom(land);
-            next = (next + 1) % MOST_CHANGES;
+            int place = Math.floorMod(next, MOST_CHANGES);
+            lands[place].copyFrom(land);
+            next = place + 1;
             held = Math.min(MOST_CHANGES, held + 1);
         }
 
@@ -1171,9 +1172,10 @@ public final class PaperLand {
             if (held == 0) {
                 return false;
             }
-            next = (next + MOST_CHANGES - 1) % MOST_CHANGES;
+            int place = Math.floorMod(next - 1, MOST_CHANGES);
+            land.copyFrom(lands[place]);
+            next = place;
             held--;
-            land.copyFrom(lands[next]);
             return true;
         }
 
@@ -1411,7 +1413,7 @@ public final class PaperLand {
         private int total;
 
         private boolean isPlace(int at) {
-            return at >= 0 && at < total;
+            return at >= 0 && at < total && at < MOST_ORDERS;
         }
 
         int kindAt(int at) {
@@ -1581,7 +1583,7 @@ public final class PaperLand {
             int down = rows;
             int across = columns;
             int height = 1;
-            for (int fold = 0; fold < folds; fold++) {
+            for (int fold = 0; fold < MOST_FOLDS && fold < folds; fold++) {
                 if (isHighFold[fold]) {
                     down = down / 2;
                 } else {
@@ -1665,7 +1667,7 @@ public final class PaperLand {
             int height = 1;
             int leaf = 0;
             boolean isFrontUp = true;
-            for (int fold = 0; fold < folds; fold++) {
+            for (int fold = 0; fold < MOST_FOLDS && fold < folds; fold++) {
                 boolean isTurned;
                 if (isHighFold[fold]) {
                     isTurned = row >= down / 2;
